@@ -53,7 +53,7 @@ public final class DrawingVault {
     private int drawingCount;
     private int revisionCount;
     private final Baseline[] baselines;
-    private final Baseline draft;
+    private Baseline draft;
     private final ChunkSet chunks;
     private final Pages pages;
     private int reason;
@@ -212,9 +212,9 @@ public final class DrawingVault {
         if (!mayWrite(refusal, cost)) {
             return NONE;
         }
-        Baseline made = new Baseline();
-        made.takeFrom(draft);
+        Baseline made = draft;
         baselines[n] = made;
+        draft = new Baseline();
         finish(cost);
         return made.size;
     }
@@ -913,12 +913,6 @@ public final class DrawingVault {
         void clear() {
             Arrays.fill(revisionOf, NONE);
             size = 0;
-        }
-
-        void takeFrom(Baseline other) {
-            System.arraycopy(other.revisionOf, 0, revisionOf, 0, DRAWINGS);
-            System.arraycopy(other.order, 0, order, 0, DRAWINGS);
-            size = other.size;
         }
 
         /** False if another revision of that drawing is in it. */

@@ -44,7 +44,9 @@ public final class PromiseTest {
         pagesOfCommands();
         copiedForward();
         copiedForwardCountsAll();
+        copiedForwardLeavesForty();
         fullVault();
+        lastPage();
         Checks.end();
     }
 
@@ -378,6 +380,17 @@ public final class PromiseTest {
         refused("a fixed one far off", v, v.checkIn(0, 0), 7);
         v.ref(0, 0, 1, 1, NONE);
         done("the latest, though none is released", v, v.checkIn(0, 0), 2);
+        v.out(0, 0);
+        for (int k = 2; k < 6; k++) {
+            v.ref(0, 0, k, 1, k == 5 ? 9 : 0);
+        }
+        refused("the sixth is not there", v, v.checkIn(0, 0), 7);
+        v.drop(0, 0, 5);
+        done("the sixth is gone", v, v.checkIn(0, 0), 3);
+        v.out(0, 0);
+        v.ref(0, 0, 5, 1, NONE);
+        done("six references", v, v.checkIn(0, 0), 4);
+        Checks.due("references", v.look(0, 4, 3), 6);
     }
 
     private static void promise10CheckInLoop() {
@@ -509,6 +522,11 @@ public final class PromiseTest {
         v.withdraw(0, 2, 0);
         refused("withdrawn", v, v.release(0, 2, 0), 2);
         Checks.due("latest released", v.about(0, 1), 1);
+        v.drawing(0);
+        v.check(1, 0, 1);
+        done("revision 0", v, v.release(1, 0, 0));
+        Checks.due("latest released", v.about(1, 1), 0);
+        done("baseline of revision 0", v, v.baseline(0, 1), 1);
     }
 
     private static void promise12ReleaseReferences() {
@@ -570,6 +588,16 @@ public final class PromiseTest {
         v.baseline(4, 2);
         refused("a baseline has it", v, v.withdraw(2, 2, 0), 5);
         done("the baseline does not have the other", v, v.withdraw(1, 2, 0));
+        v.baseline(0, 2);
+        releaseNew(v, 2);
+        v.baseline(9, 2);
+        refused("baselines 0 and 4 have it", v, v.withdraw(2, 2, 0), 5);
+        refused("baseline 9 has it", v, v.withdraw(2, 3, 0), 5);
+        releaseNew(v, 3);
+        v.baseline(1, 3);
+        releaseNew(v, 1);
+        releaseNew(v, 0, 1, 3);
+        refused("drawing 0 has it fixed", v, v.withdraw(1, 3, 0), 5);
         DrawingVault w = with(2);
         releaseNew(w, 1);
         releaseNew(w, 0, 1, NONE);
@@ -1124,11 +1152,10 @@ public final class PromiseTest {
         Checks.due("copies stay", v.about(1, 8), 1);
     }
 
-    /** So many chunks that copying forward would leave too little: it is not done, and pages end. */
-    private static void fullVault() {
-        Checks.test("a full vault");
+    /** 24 drawings, and so many revisions of 8 chunks that nobody else has. */
+    private static DrawingVault withChunks(int revisions) {
         DrawingVault v = with(24);
-        for (int i = 0; v.count(5) < 2 && i < 32; i++) {
+        for (int i = 0; i < revisions; i++) {
             v.out(i % 24, 0);
             v.resize(i % 24, 0, 64);
             for (int piece = 0; piece < 8; piece++) {
@@ -1137,8 +1164,55 @@ public final class PromiseTest {
             }
             v.checkIn(i % 24, 0);
         }
+        return v;
+    }
+
+    private static void copiedForwardLeavesForty() {
+        Checks.test("copied forward, 40 are left");
+        DrawingVault v = withChunks(31);
+        for (int person = 2; person < 9; person++) {
+            v.person(person, 1);
+        }
+        // 9 persons, 24 drawings, 55 revisions, 248 chunks
+        while (v.count(3) > 40) {
+            v.person(0, 7);
+        }
+        int copied = v.count(5);
+        v.person(0, 7);
+        Checks.due("360 pages leave 40", v.count(3), 40);
+        Checks.due("done", v.count(5), copied + 1);
+        v.person(9, 1);
+        Checks.due("361 pages leave 39", v.count(3), 39);
+        Checks.due("not done", v.count(5), copied + 1);
+        v.person(9, 0);
+        Checks.due("360 pages again", v.count(3), 40);
+        Checks.due("done again", v.count(5), copied + 2);
+    }
+
+    private static void lastPage() {
+        Checks.test("the last page");
+        DrawingVault v = withChunks(32);
+        v.out(0, 0);
+        while (v.count(3) > 1) {
+            v.person(0, 7);
+        }
+        done("undo()", v, v.undo(0, 0));
+        Checks.due("none is left", v.count(3), 0);
+        DrawingVault w = withChunks(32);
+        while (w.count(3) > 1) {
+            w.person(0, 7);
+        }
+        done("check()", w, w.check(23, 1, 1));
+        Checks.due("none is left", w.count(3), 0);
+        refused("release()", w, w.release(23, 1, 1), 8);
+    }
+
+    /** So many chunks that copying forward would leave too little: it is not done, and pages end. */
+    private static void fullVault() {
+        Checks.test("a full vault");
+        DrawingVault v = withChunks(32);
         Checks.due("once only", v.count(5), 1);
-        Checks.due("what it would be: 2 + 48 + 56 + 256", v.count(2), 256);
+        Checks.due("chunks", v.count(2), 256);
         while (v.count(3) > 1) {
             v.person(0, 7);
         }
