@@ -170,7 +170,7 @@ public final class PromiseTest {
         refused("the 25th without right", v, v.drawing(2), 1);
         DrawingVault w = with(9);
         for (int d = 0; d < 9; d++) {
-            for (int r = w.about(d, 0); r < 11 && w.count(1) < 100; r++) {
+            for (int r = 1; r < (d < 8 ? 12 : 4); r++) {
                 revise(w, d);
             }
         }
@@ -432,7 +432,7 @@ public final class PromiseTest {
         refused("a thirteenth, and a loop", v, v.checkIn(0, 0), 6);
         v.undo(0, 0);
         for (int d = 1; d < 9; d++) {
-            for (int r = 1; r < 12 && v.count(1) < 100; r++) {
+            for (int r = 1; r < (d < 8 ? 12 : 4); r++) {
                 revise(v, d);
             }
         }
@@ -1143,9 +1143,9 @@ public final class PromiseTest {
         v.resize(1, 0, 64);
         v.put(1, 0, 0, 1);
         v.out(2, 1);
-        while (v.count(3) >= 40 && v.count(5) == 0) {
-            v.person(1, 7);
-        }
+        writeUntilLeft(v, 40);
+        Checks.due("not yet", v.count(5), 0);
+        v.person(0, 7);
         // 2 persons, 10 drawings, 20 revisions, 2 out, 2 chunks, baselines of 9 and 8
         Checks.due("pages", v.count(3), 400 - 2 - 20 - 20 - 2 - 2 - 3 - 2);
         Checks.due("once", v.count(5), 1);
@@ -1157,14 +1157,21 @@ public final class PromiseTest {
         DrawingVault v = with(24);
         for (int i = 0; i < revisions; i++) {
             v.out(i % 24, 0);
-            v.resize(i % 24, 0, 64);
+            if (i < 24) {
+                v.resize(i, 0, 64);
+            }
             for (int piece = 0; piece < 8; piece++) {
-                v.put(i % 24, 0, 8 * piece, i + 1);
-                v.put(i % 24, 0, 8 * piece + 1, piece);
+                v.put(i % 24, 0, 8 * piece + i / 24, 8 * (i % 24) + piece + 1);
             }
             v.checkIn(i % 24, 0);
         }
         return v;
+    }
+
+    private static void writeUntilLeft(DrawingVault v, int pages) {
+        for (int n = v.count(3); n > pages; n--) {
+            v.person(0, 7);
+        }
     }
 
     private static void copiedForwardLeavesForty() {
@@ -1174,9 +1181,7 @@ public final class PromiseTest {
             v.person(person, 1);
         }
         // 9 persons, 24 drawings, 55 revisions, 248 chunks
-        while (v.count(3) > 40) {
-            v.person(0, 7);
-        }
+        writeUntilLeft(v, 40);
         int copied = v.count(5);
         v.person(0, 7);
         Checks.due("360 pages leave 40", v.count(3), 40);
@@ -1193,15 +1198,11 @@ public final class PromiseTest {
         Checks.test("the last page");
         DrawingVault v = withChunks(32);
         v.out(0, 0);
-        while (v.count(3) > 1) {
-            v.person(0, 7);
-        }
+        writeUntilLeft(v, 1);
         done("undo()", v, v.undo(0, 0));
         Checks.due("none is left", v.count(3), 0);
         DrawingVault w = withChunks(32);
-        while (w.count(3) > 1) {
-            w.person(0, 7);
-        }
+        writeUntilLeft(w, 1);
         done("check()", w, w.check(23, 1, 1));
         Checks.due("none is left", w.count(3), 0);
         refused("release()", w, w.release(23, 1, 1), 8);
@@ -1213,9 +1214,7 @@ public final class PromiseTest {
         DrawingVault v = withChunks(32);
         Checks.due("once only", v.count(5), 1);
         Checks.due("chunks", v.count(2), 256);
-        while (v.count(3) > 1) {
-            v.person(0, 7);
-        }
+        writeUntilLeft(v, 1);
         v.failAfter(0);
         refused("2 pages, 1 is left", v, v.drawing(1), 8);
         v.start();
