@@ -168,6 +168,9 @@ public final class PromiseTest {
         done("the 24th", v, v.drawing(0), 23);
         refused("the 25th", v, v.drawing(0), 8);
         refused("the 25th without right", v, v.drawing(2), 1);
+        refused("out() of drawing 24", v, v.out(24, 0), 7);
+        Checks.noIndex("about drawing 24", () -> v.about(24, 0));
+        Checks.due("users of drawing 24", v.user(24, true, 0), NONE);
         DrawingVault w = with(9);
         for (int d = 0; d < 9; d++) {
             for (int r = 1; r < (d < 8 ? 12 : 4); r++) {
@@ -424,6 +427,7 @@ public final class PromiseTest {
         for (int r = 1; r < 12; r++) {
             done("revision " + r, v, revise(v, 0), r);
         }
+        Checks.noIndex("revision 12", () -> v.look(0, 12, 0));
         refused("a thirteenth", v, revise(v, 0), 8);
         Checks.due("still out", v.about(0, 2), 0);
         v.ref(0, 0, 0, 1, 5);
@@ -588,13 +592,12 @@ public final class PromiseTest {
         v.baseline(4, 2);
         refused("a baseline has it", v, v.withdraw(2, 2, 0), 5);
         done("the baseline does not have the other", v, v.withdraw(1, 2, 0));
+        releaseNew(v, 2);
         v.baseline(0, 2);
+        refused("baseline 0 has it", v, v.withdraw(2, 3, 0), 5);
         releaseNew(v, 2);
         v.baseline(9, 2);
-        refused("baselines 0 and 4 have it", v, v.withdraw(2, 2, 0), 5);
-        refused("baseline 9 has it", v, v.withdraw(2, 3, 0), 5);
-        releaseNew(v, 3);
-        v.baseline(1, 3);
+        refused("baseline 9 has it", v, v.withdraw(2, 4, 0), 5);
         releaseNew(v, 1);
         releaseNew(v, 0, 1, 3);
         refused("drawing 0 has it fixed", v, v.withdraw(1, 3, 0), 5);
@@ -837,6 +840,14 @@ public final class PromiseTest {
         users("directly", v, 4, false, 0, 2);
         users("by others", v, 4, true, 0, 1, 2);
         users("nobody", v, 1, true);
+        DrawingVault u = with(3);
+        revise(u, 0, 2, NONE);
+        revise(u, 1, 0, NONE);
+        users("1 > 0 > 2, directly", u, 2, false, 0);
+        users("1 > 0 > 2, by others", u, 2, true, 0, 1);
+        u.out(2, 0);
+        u.ref(2, 0, 0, 1, NONE);
+        refused("1 > 0 > 2 > 1", u, u.checkIn(2, 0), 6);
         v.out(3, 0);
         v.ref(3, 0, 0, 5, NONE);
         users("a working copy does not use", v, 5, false, 2, 4);
