@@ -116,7 +116,8 @@ public final class BoundsTest {
         for (String call : calls) {
             run.refuses(7, call, none);
         }
-        for (String call : new String[] {"look(%, 0, 0)", "reference(%, 0, 0, 0)", "about(%, 0)", "difference(%, 0, 0, 0)"}) {
+        String[] questions = {"look(%, 0, 0)", "reference(%, 0, 0, 0)", "about(%, 0)", "difference(%, 0, 0, 0)"};
+        for (String call : questions) {
             run.hasNone(call, none);
         }
         run.answers(NONE, "user(%, false, 0)", none);
@@ -134,7 +135,8 @@ public final class BoundsTest {
         twelve.answers(13, "count(1)");
         twelve.then("out(0, 0)", "resize(0, 0, 8)").refuses(8, "checkIn(0, 0)");
         twelve.then("out(0, 0)").does("undo(0, 0)");
-        twelve.does("check(0, 11, 1)").does("release(0, 11, 0)").does(1, "baseline(0, 0)").answers(11, "inBaseline(0, 0, 1)");
+        twelve.does("check(0, 11, 1)").does("release(0, 11, 0)").does(1, "baseline(0, 0)")
+            .answers(11, "inBaseline(0, 0, 1)");
         twelve.does("withdraw(0, 11, 0)");
         twelve.then("out(1, 0)").does(1, "checkIn(1, 0)");
     }

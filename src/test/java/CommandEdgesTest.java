@@ -7,6 +7,7 @@ public final class CommandEdgesTest {
     public static void main(String[] args) {
         newObjectHasNothing();
         newObjectsAreApart();
+        usedFor512Calls();
         personHasRights();
         personFromNowOn();
         drawingIsNumbered();
@@ -74,6 +75,20 @@ public final class CommandEdgesTest {
         Checks.due("commands of the other", two.count(4), 0);
         Checks.due("drawings of the other", two.count(0), 0);
         Checks.due("drawing(0) of the other", two.drawing(0), NONE);
+    }
+
+    private static void usedFor512Calls() {
+        Checks.test("An object is used for at most 512 calls after it has been made");
+        DrawingVault writing = new DrawingVault();
+        for (int i = 0; i < 511; i++) {
+            Checks.due("person(), call " + (i + 1), writing.person(i % 16, 7), true);
+        }
+        Checks.due("drawing(15), call 512", writing.drawing(15), 0);
+        DrawingVault asked = new DrawingVault();
+        for (int i = 0; i < 511; i++) {
+            asked.user(0, true, i);
+        }
+        Checks.due("person(0, 7), call 512", asked.person(0, 7), true);
     }
 
     // ---- promise 2 ----
@@ -445,8 +460,8 @@ public final class CommandEdgesTest {
         Run run = Vaults.drawings(3).then(Vaults.release(2, 0)).then(Vaults.revise(2)).then(Vaults.release(2, 1));
         int[][] pairs = {{0, 0}, {1, 1}, {1, NONE}, {NONE, NONE}, {0, 1}, {0, NONE}, {NONE, 0}, {1, 0}};
         for (int i = 0; i < pairs.length; i++) {
-            Run direct = run.then("out(0, 0)", "ref(0, 0, 0, 2, " + pairs[i][0] + ")", "ref(0, 0, 1, 2, " + pairs[i][1] + ")")
-                .then("checkIn(0, 0)").then(Vaults.release(0, 1));
+            Run direct = run.then("out(0, 0)", "ref(0, 0, 0, 2, " + pairs[i][0] + ")")
+                .then("ref(0, 0, 1, 2, " + pairs[i][1] + ")", "checkIn(0, 0)").then(Vaults.release(0, 1));
             Run byAnother = run.then(Vaults.refer(1, 0, 2, pairs[i][0])).then(Vaults.release(1, 1))
                 .then("out(0, 0)", "ref(0, 0, 0, 1, NONE)", "ref(0, 0, 1, 2, " + pairs[i][1] + ")")
                 .then("checkIn(0, 0)").then(Vaults.release(0, 1));
@@ -465,11 +480,13 @@ public final class CommandEdgesTest {
         Checks.test("14: 2 if another revision of the drawing itself is reached");
         Run run = Vaults.drawings(2).then(Vaults.release(0, 0));
         Run fixed = run.then(Vaults.refer(1, 0, 0, 0)).then(Vaults.release(1, 1))
-            .then("out(1, 0)", "drop(1, 0, 0)", "checkIn(1, 0)").then(Vaults.refer(0, 0, 1, 1)).then(Vaults.release(0, 1));
+            .then("out(1, 0)", "drop(1, 0, 0)", "checkIn(1, 0)").then(Vaults.refer(0, 0, 1, 1))
+            .then(Vaults.release(0, 1));
         fixed.answers(1, "about(0, 1)");
         fixed.refuses(2, "baseline(0, 0)");
         Run round = run.then(Vaults.refer(1, 0, 0, NONE)).then(Vaults.release(1, 1))
-            .then("out(1, 0)", "drop(1, 0, 0)", "checkIn(1, 0)").then(Vaults.refer(0, 0, 1, 1)).then(Vaults.release(0, 1));
+            .then("out(1, 0)", "drop(1, 0, 0)", "checkIn(1, 0)").then(Vaults.refer(0, 0, 1, 1))
+            .then(Vaults.release(0, 1));
         round.does(2, "baseline(0, 0)").answers(1, "inBaseline(0, 0, 1)");
     }
 

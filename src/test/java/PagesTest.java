@@ -294,7 +294,8 @@ public final class PagesTest {
 
     private static void copyingChangesNothing() {
         Checks.test("copying forward changes the pages alone");
-        Run forty = Vaults.left(SPENT.then("out(2, 1)", "resize(2, 1, 5)", "put(2, 1, 4, 8)", "ref(2, 1, 0, 1, 3)"), 40);
+        Run out = SPENT.then("out(2, 1)", "resize(2, 1, 5)", "put(2, 1, 4, 8)", "ref(2, 1, 0, 1, 3)");
+        Run forty = Vaults.left(out, 40);
         Run copied = forty.then("person(0, 7)");
         copied.answers(1, "about(2, 2)");
         copied.answers(5, "about(2, 3)");

@@ -82,7 +82,8 @@ public final class PowerTest {
             failed.then("start()", command).answers(0, "why()");
             failed.then("start()", command).answers(READY.ask("count(4)") + 1, "count(4)");
         }
-        for (String other : new String[] {"put(0, 0, 0, 1)", "resize(0, 0, 1)", "ref(0, 0, 0, 2, 0)", "drop(0, 0, 0)"}) {
+        String[] others = {"put(0, 0, 0, 1)", "resize(0, 0, 1)", "ref(0, 0, 0, 2, 0)", "drop(0, 0, 0)"};
+        for (String other : others) {
             failed.hasNoPower(other);
             failed.then("start()").does(other);
         }
@@ -184,9 +185,14 @@ public final class PowerTest {
         started.answers(3, "about(0, 3)");
         started.answers(9, "about(0, 10)");
         started.does(2, "checkIn(0, 1)").answers(9, "look(0, 2, 10)");
-        Run given = Vaults.drawings(1).then("out(0, 0)", "resize(0, 0, 3)", "undo(0, 0)", "start()");
-        given.answers(0, "about(0, 3)");
-        given.does("out(0, 0)").answers(0, "about(0, 3)");
+        Run written = Vaults.drawings(1).then("out(0, 0)", "resize(0, 0, 3)", "ref(0, 0, 0, 0, 9)", "person(2, 1)");
+        for (String end : new String[] {"undo(0, 0)", "checkIn(0, 0)"}) {
+            Run given = written.then("drop(0, 0, 0)", end, "start()");
+            given.answers(DrawingVault.NONE, "about(0, 2)");
+            given.answers(0, "about(0, 3)");
+            given.answers(0, "about(0, 4)");
+        }
+        written.then("undo(0, 0)", "start()").does("out(0, 0)").answers(0, "about(0, 3)");
     }
 
     private static void startedBeforeAnyCommand() {

@@ -106,7 +106,7 @@ public final class QuestionEdgesTest {
     // ---- promise 16 ----
 
     private static void lookAtWhat() {
-        Checks.test("16: what 0: its state, 1: its author, 2: how many bytes, 3: how many references, 4: how many chunks");
+        Checks.test("16: what 0: its state, 1: its author, 2: how many bytes, 3: references, 4: chunks");
         int[] empty = {0, 0, 0, 0, 0};
         int[] full = {0, 1, 64, 6, 8};
         for (int what = 0; what < 5; what++) {
@@ -250,7 +250,8 @@ public final class QuestionEdgesTest {
             run.answers(NONE, "user(0, " + all + ", 0)");
             run.answers(NONE, "user(23, " + all + ", 0)");
         }
-        Run twice = Vaults.drawings(2).then("out(0, 0)", "ref(0, 0, 0, 1, 0)", "ref(0, 0, 1, 1, NONE)", "checkIn(0, 0)");
+        Run twice = Vaults.drawings(2)
+            .then("out(0, 0)", "ref(0, 0, 0, 1, 0)", "ref(0, 0, 1, 1, NONE)", "checkIn(0, 0)");
         twice.answers(0, "user(1, false, 0)");
         twice.answers(NONE, "user(1, false, 1)");
         twice.answers(NONE, "user(1, true, 1)");
@@ -375,7 +376,8 @@ public final class QuestionEdgesTest {
 
     private static void questionsChangeNothing() {
         Checks.test("questions change nothing");
-        Run run = Vaults.row(4).then("baseline(3, 3)", "out(2, 0)", "resize(2, 0, 20)", "put(2, 0, 19, 7)", "failAfter(5)");
+        Run run = Vaults.row(4)
+            .then("baseline(3, 3)", "out(2, 0)", "resize(2, 0, 20)", "put(2, 0, 19, 7)", "failAfter(5)");
         String[] questions = {
             "why()", "look(1, 1, 0)", "look(1, 1, 4)", "reference(1, 1, 0, 2)", "about(2, 3)", "about(2, 27)",
             "inBaseline(3, NONE, 0)", "inBaseline(3, 3, 1)", "user(0, false, 0)", "user(0, true, 2)",

@@ -195,7 +195,8 @@ public final class ReasonsTest {
 
     private static void ofWithdraw() {
         Checks.test("withdraw(), the least reason");
-        Run run = Vaults.drawings(2).then(Vaults.release(1, 0)).then("baseline(0, 1)", "withdraw(0, 0, 0)", "person(2, 3)");
+        Run run = Vaults.drawings(2).then(Vaults.release(1, 0))
+            .then("baseline(0, 1)", "withdraw(0, 0, 0)", "person(2, 3)");
         run.refuses(1, "withdraw(0, 0, 2)");
         run.refuses(1, "withdraw(1, 0, 2)");
         run.refuses(1, "withdraw(1, 1, 2)");
@@ -220,7 +221,8 @@ public final class ReasonsTest {
         FULL.refuses(7, "baseline(10, 18)");
         FULL.refuses(7, "baseline(1, 23)");
         FULL.refuses(8, "baseline(1, 18)");
-        Run two = Vaults.drawings(4).then(Vaults.release(3, 0)).then(Vaults.refer(2, 0, 3, 0)).then(Vaults.release(2, 1))
+        Run two = Vaults.drawings(4).then(Vaults.release(3, 0))
+            .then(Vaults.refer(2, 0, 3, 0)).then(Vaults.release(2, 1))
             .then(Vaults.revise(3)).then(Vaults.release(3, 1)).then(Vaults.release(1, 0))
             .then("out(0, 0)", "ref(0, 0, 0, 1, NONE)", "ref(0, 0, 1, 2, 1)", "ref(0, 0, 2, 3, 1)", "checkIn(0, 0)")
             .then(Vaults.release(0, 1));
