@@ -22,8 +22,10 @@ public final class DrawingVault {
     private static final int PIECES = BYTES / PIECE;
     private static final int CHUNKS = (REVISIONS + DRAWINGS) * PIECES;
     private static final int GREATEST_BYTE = 255;
+    private static final int BITS_OF_A_BYTE = 8;
     private static final int PAGES = 400;
     private static final int PAGES_TO_SPARE = 40;
+    private static final int DRAWINGS_A_PAGE = 8;
 
     private static final int TO_MAKE = 1;
     private static final int TO_CHECK = 2;
@@ -839,7 +841,7 @@ public final class DrawingVault {
         }
 
         private static int shiftOf(int at) {
-            return at % PIECE * PIECE;
+            return at % PIECE * BITS_OF_A_BYTE;
         }
     }
 
@@ -939,7 +941,7 @@ public final class DrawingVault {
         }
 
         int pagesTaken() {
-            return 1 + (size + 7) / 8;
+            return 1 + (size + DRAWINGS_A_PAGE - 1) / DRAWINGS_A_PAGE;
         }
     }
 

@@ -90,7 +90,7 @@ public final class ReadmeTest {
         for (Method m : face()) {
             StringBuilder call = new StringBuilder("`" + m.getName() + "\\(");
             for (int i = 0; i < m.getParameterCount(); i++) {
-                call.append(i == 0 ? "\\w+" : ", \\w+");
+                call.append(i == 0 ? "" : ", ").append("[a-z]\\w*");
             }
             call.append("\\)`");
             Checks.due(m.getName() + "() stands in it with its arguments",
